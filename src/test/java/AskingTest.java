@@ -78,6 +78,7 @@ public final class AskingTest {
         x.lost(2, 1);
         x.state(1, 5);
         due.is("without LOST and GONE", x.sum(2, 4), 5);
+        due.is("of good 0", x.sum(0, 0), 0);
         due.refused("good -1", Due.ARGUMENT, () -> x.sum(-1, 0));
         due.refused("good 8", Due.ARGUMENT, () -> x.sum(8, 0));
         due.refused("place -1", Due.ARGUMENT, () -> x.sum(0, -1));

@@ -12,6 +12,7 @@ public final class PlacingTest {
         intoFromAnother();
         intoDepth();
         intoRefuses();
+        upwardChain();
         out();
         due.end();
     }
@@ -163,6 +164,32 @@ public final class PlacingTest {
         due.refused("no room for a row", Due.NO_ROOM, () -> x.into(2, 0));
         due.is("nothing changed", x.told(2, 2), 1);
         due.refused("the state before the room", Due.STATE, () -> x.into(2, 1));
+    }
+
+    /** Unit 0 deepest of all: a unit's number says nothing of what it lies in. */
+    private static void upwardChain() {
+        UnitRows x = Due.withUnits(6);
+        x.into(1, 2);
+        x.into(0, 1);
+        due.is("within the outermost", x.told(2, 7), 2);
+        due.is("within the next", x.told(1, 7), 1);
+        x.into(4, 5);
+        x.into(3, 4);
+        due.refused("unit 0 would be 6 deep", Due.STATE, () -> x.into(2, 3));
+        due.refused("unit 0 holds nothing, unit 1 holds it", Due.STATE, () -> x.join(1, 3));
+        x.into(2, 4);
+        due.is("unit 0 is 5 deep", x.told(0, 6), 5);
+        x.move(5, 0);
+        due.is("unit 0 goes along", x.told(0, 1), 0);
+        x.lost(4, 1);
+        for (int unit = 0; unit < 5; unit++) {
+            due.is("LOST " + unit, x.told(unit, 0), 4);
+            due.is("in nothing " + unit, x.told(unit, 2), -1);
+            due.is("nowhere " + unit, x.told(unit, 1), -1);
+        }
+        due.is("nothing lies in 5", x.told(5, 7), 0);
+        x.found(0, 9);
+        due.is("unit 0 is found in nothing", x.told(0, 6), 1);
     }
 
     private static void out() {

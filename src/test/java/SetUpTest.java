@@ -6,6 +6,7 @@ public final class SetUpTest {
         newObject();
         rows();
         rowsLeavesAllElse();
+        rowsForgetsUnits();
         place();
         placeCountsThoseWithin();
         good();
@@ -97,6 +98,38 @@ public final class SetUpTest {
         due.refused("its third row", Due.NO_SUCH, () -> x.row(0, 2, 0));
     }
 
+    /** What the units before rows() were must not be seen in those after it. */
+    private static void rowsForgetsUnits() {
+        UnitRows x = Due.withChain(3, 3);
+        x.unit(1, 0, 0, 1);
+        x.serial(3, 42);
+        x.rows(64);
+        x.unit(1, 4, 0, 1);
+        due.is("nothing lies in it", x.told(0, 7), 0);
+        due.is("one piece of one unit", x.sum(2, 4), 1);
+        due.is("one unit stands", x.count(1), 1);
+        due.is("one unit is found", x.find(-1, -1, -1, 1), -1);
+        due.refused("one unit is there", Due.INDEX, () -> x.at(4, 1));
+        x.place(4, 1);
+        x.serial(0, 42);
+        x.place(4, 20);
+        x.unit(1, 4, 0, 3);
+        due.is("it lies in nothing", x.told(1, 2), -1);
+        x.split(1, 1);
+        due.is("a split one lies in nothing", x.told(2, 2), -1);
+        x.unit(1, 4, 0, 1);
+        due.is("it has no serial number", x.packed(3) >> 20, 0);
+        x.serial(3, 43);
+        x.rows(64);
+        x.unit(0, 0, 0, 1);
+        x.lost(0, 1);
+        due.is("a lost one", x.count(1), 0);
+        x.rows(64);
+        x.unit(0, 0, 0, 1);
+        due.is("a new one is GOOD", x.told(0, 0), 0);
+        due.is("none that was before expires", x.day(1000), 1);
+    }
+
     private static void place() {
         UnitRows x = Due.withLots();
         due.refused("place -1", Due.ARGUMENT, () -> x.place(-1, 1));
@@ -150,6 +183,15 @@ public final class SetUpTest {
         x.good(0, 9);
         x.good(7, 9);
         due.is("other goods' grams are other's", x.weigh(0, 1), -4);
+        for (int good = 0; good < 8; good++) {
+            UnitRows y = new UnitRows();
+            y.lot(good, 0);
+            y.unit(0, 0, 0, 2);
+            due.is("grams at first of good " + good, y.weigh(0, 201), 1);
+            y.good(good, 60);
+            due.is("grams of good " + good, y.weigh(0, 201), 81);
+            due.is("sum of good " + good, y.sum(good, 0), 2);
+        }
     }
 
     private static void lot() {

@@ -126,6 +126,7 @@ public final class StatesTest {
         due.is("its row's day", x.row(0, 1, 1), 5);
         due.is("its row's number", x.row(0, 1, 2), 0);
         due.refused("one that another has", Due.STATE, () -> x.serial(2, 1));
+        due.refused("one that unit 0 has", Due.STATE, () -> x.serial(2, 9999999999L));
         x.lost(1, 1);
         due.refused("one that a LOST one has", Due.STATE, () -> x.serial(2, 1));
         x.found(1, 0);

@@ -1,0 +1,138 @@
+/** Refusals for want of room (Terms): an act that just fits is done, one row or unit more is refused. */
+public final class RoomTest {
+    private static final Due due = new Due();
+
+    private interface Doing {
+        void on(UnitRows x);
+    }
+
+    public static void main(String[] args) {
+        lastRows();
+        justFullPlace();
+        lastUnit();
+        allUnits();
+        due.end();
+    }
+
+    /** Unit 0 to weigh, unit 1 in unit 2, two units 3 and 4 alike, a LOST unit 5, unit 6 of one piece. */
+    private static UnitRows stocked() {
+        UnitRows x = Due.withUnits(6);
+        x.unit(1, 4, 3, 1);
+        x.into(1, 2);
+        x.lost(5, 1);
+        return x;
+    }
+
+    private static void lastRows() {
+        needs("unit", 1, x -> x.unit(1, 0, 0, 1));
+        needs("move", 1, x -> x.move(3, 0));
+        needs("move within its place", 1, x -> x.move(1, 4));
+        needs("move with another", 1, x -> x.move(2, 0));
+        needs("into", 1, x -> x.into(3, 4));
+        needs("out", 1, x -> x.out(1));
+        needs("split", 2, x -> x.split(3, 1));
+        needs("join", 2, x -> x.join(3, 4));
+        needs("state", 1, x -> x.state(3, 1));
+        needs("state GONE with another", 1, x -> x.state(2, 5));
+        needs("serial", 1, x -> x.serial(6, 1));
+        needs("lost with another", 1, x -> x.lost(2, 1));
+        needs("found", 1, x -> x.found(5, 0));
+        needs("weigh", 1, x -> x.weigh(3, 1));
+    }
+
+    private static void needs(String what, int rows, Doing act) {
+        UnitRows fits = stocked();
+        Due.leaveRows(fits, rows);
+        due.refused(what + " into the last rows", null, () -> act.on(fits));
+        due.is(what + ": all rows", fits.count(3), 400);
+        UnitRows full = stocked();
+        Due.leaveRows(full, rows - 1);
+        String before = look(full);
+        due.refused(what + " with a row too few", Due.NO_ROOM, () -> act.on(full));
+        due.is(what + ": all rows", full.count(3), 400 - rows + 1);
+        if (!look(full).equals(before)) {
+            due.tell(what + " was refused, yet changed " + before + " to " + look(full));
+        }
+    }
+
+    private static String look(UnitRows x) {
+        StringBuilder look = new StringBuilder();
+        for (int unit = 0; unit < x.count(0); unit++) {
+            look.append(x.told(unit, 0)).append(' ').append(x.told(unit, 1)).append(' ').append(x.told(unit, 2))
+                    .append(' ').append(x.packed(unit)).append("; ");
+        }
+        return look.toString();
+    }
+
+    private static void justFullPlace() {
+        UnitRows x = Due.withUnits(4);
+        x.into(3, 2);
+        x.place(4, 5);
+        x.split(0, 1);
+        due.refused("a unit beyond the full place", Due.NO_ROOM, () -> x.unit(1, 4, 0, 1));
+        due.refused("a split beyond it", Due.NO_ROOM, () -> x.split(0, 1));
+        x.lost(1, 1);
+        x.found(1, 4);
+        x.lost(1, 1);
+        x.unit(1, 4, 0, 1);
+        due.refused("found beyond it", Due.NO_ROOM, () -> x.found(1, 4));
+        x.place(5, 2);
+        x.move(2, 5);
+        due.is("two into a place for two", x.told(3, 1), 5);
+        x.out(3);
+        due.is("out at a full place", x.told(3, 2), -1);
+        x.into(2, 3);
+        due.is("into at a full place", x.told(2, 2), 3);
+        x.place(15, 1);
+        x.move(2, 15);
+        due.refused("more into place 15", Due.NO_ROOM, () -> x.move(3, 15));
+    }
+
+    private static void lastUnit() {
+        UnitRows x = Due.withLots();
+        x.rows(2);
+        x.unit(1, 0, 0, 5);
+        due.is("split into the last unit", x.split(0, 1), 1);
+        x.state(1, 5);
+        due.refused("GONE ones were made too", Due.NO_ROOM, () -> x.unit(1, 0, 0, 5));
+        UnitRows y = Due.withLots();
+        y.place(0, 64);
+        for (int i = 0; i < 64; i++) {
+            y.unit(1, 0, 0, 5);
+        }
+        y.lost(63, 1);
+        due.refused("a 65th by split", Due.NO_ROOM, () -> y.split(0, 1));
+        due.refused("a 65th unit", Due.NO_ROOM, () -> y.unit(1, 1, 0, 5));
+        due.is("pieces", y.told(0, 3), 5);
+    }
+
+    /** Every call that looks at all units, where the last of 64 is among them. */
+    private static void allUnits() {
+        UnitRows x = Due.withLots();
+        x.place(0, 64);
+        for (int i = 0; i < 64; i++) {
+            x.unit(0, 0, 0, 1);
+        }
+        x.serial(63, 7);
+        due.refused("unit 63 has the number", Due.STATE, () -> x.serial(0, 7));
+        x.into(63, 62);
+        x.into(62, 61);
+        due.is("within 61", x.told(61, 7), 2);
+        x.into(61, 0);
+        due.is("63 is 4 deep", x.told(63, 6), 4);
+        x.move(61, 1);
+        due.is("63 goes along", x.told(63, 1), 1);
+        due.is("at place 0", x.sum(1, 0), 61);
+        due.is("at place 0 itself", x.at(0, 60), 60);
+        due.is("the last of all", x.find(0, 0, 0, 63), 63);
+        x.join(0, 60);
+        x.lost(62, 1);
+        due.is("63 is LOST too", x.told(63, 0), 4);
+        due.is("units that stand", x.count(1), 61);
+        x.found(63, 1);
+        due.is("units that expire", x.day(11), 62);
+        x.state(63, 5);
+        due.is("63 is GONE", x.find(-1, -1, 5, 1), 63);
+        due.refused("unit 64", Due.NO_SUCH, () -> x.told(64, 0));
+    }
+}
