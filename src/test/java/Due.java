@@ -23,6 +23,15 @@ final class Due {
         }
     }
 
+    boolean same(String what, String got, String want) {
+        asked++;
+        boolean same = got.equals(want);
+        if (!same) {
+            tell(what + " answered " + got + ", due is " + want);
+        }
+        return same;
+    }
+
     void refused(String what, Class<?> want, Act act) {
         asked++;
         Class<?> got = thrownBy(act);

@@ -1,6 +1,8 @@
 import java.util.ArrayList;
+import java.util.Arrays;
 import java.util.List;
 import java.util.Random;
+import java.util.function.LongSupplier;
 
 /**
  * Runs of random calls (always the same ones), each answer held against a plain model of the
@@ -77,8 +79,8 @@ public final class RandomRunsTest {
         int day = 0;
 
         Model() {
-            java.util.Arrays.fill(most, 20);
-            java.util.Arrays.fill(grams, 100);
+            Arrays.fill(most, 20);
+            Arrays.fill(grams, 100);
         }
 
         Box box(long n) {
@@ -517,7 +519,7 @@ public final class RandomRunsTest {
         }
     }
 
-    private static String answer(java.util.function.LongSupplier call) {
+    private static String answer(LongSupplier call) {
         try {
             return String.valueOf(call.getAsLong());
         } catch (Refusal refusal) {
@@ -545,9 +547,8 @@ public final class RandomRunsTest {
                 } else {
                     done[method]++;
                 }
-                if (!got.equals(want)) {
-                    due.tell("run " + run + ", call " + call + ": " + NAMES[method] + java.util.Arrays.toString(numbers)
-                            + " answered " + got + ", due is " + want);
+                String what = "run " + run + ", call " + call + ": " + NAMES[method];
+                if (!due.same(what + Arrays.toString(numbers), got, want)) {
                     break;
                 }
             }

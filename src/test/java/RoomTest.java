@@ -50,9 +50,7 @@ public final class RoomTest {
         String before = look(full);
         due.refused(what + " with a row too few", Due.NO_ROOM, () -> act.on(full));
         due.is(what + ": all rows", full.count(3), 400 - rows + 1);
-        if (!look(full).equals(before)) {
-            due.tell(what + " was refused, yet changed " + before + " to " + look(full));
-        }
+        due.same(what + ": the units after the refusal", look(full), before);
     }
 
     private static String look(UnitRows x) {
