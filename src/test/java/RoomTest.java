@@ -1,16 +1,14 @@
+import java.util.function.Consumer;
+
 /** Refusals for want of room (Terms): an act that just fits is done, one row or unit more is refused. */
 public final class RoomTest {
     private static final Due due = new Due();
 
-    private interface Doing {
-        void on(UnitRows x);
-    }
-
     public static void main(String[] args) {
-        lastRows();
-        justFullPlace();
-        lastUnit();
-        allUnits();
+        due.sentence(Due.TERMS, "UnsupportedOperationException: no room (for units", RoomTest::lastUnit);
+        due.sentence(Due.TERMS, "rows", RoomTest::lastRows);
+        due.sentence(Due.TERMS, "or at the place)", RoomTest::justFullPlace);
+        due.sentence(Due.TERMS, "(64 at first)", RoomTest::allUnits);
         due.end();
     }
 
@@ -38,52 +36,46 @@ public final class RoomTest {
         needs("lost with another", 1, x -> x.lost(2, 1));
         needs("found", 1, x -> x.found(5, 0));
         needs("weigh", 1, x -> x.weigh(3, 1));
+        UnitRows full = stocked();
+        Due.leaveRows(full, 0);
+        due.done("a day needs no row", () -> full.day(1000));
+        due.done("nor does a lot", () -> full.lot(0, 0));
     }
 
-    private static void needs(String what, int rows, Doing act) {
+    private static void needs(String what, int rows, Consumer<UnitRows> act) {
         UnitRows fits = stocked();
         Due.leaveRows(fits, rows);
-        due.refused(what + " into the last rows", null, () -> act.on(fits));
+        due.done(what + " into the last rows", () -> act.accept(fits));
         due.is(what + ": all rows", fits.count(3), 400);
-        UnitRows full = stocked();
-        Due.leaveRows(full, rows - 1);
-        String before = look(full);
-        due.refused(what + " with a row too few", Due.NO_ROOM, () -> act.on(full));
-        due.is(what + ": all rows", full.count(3), 400 - rows + 1);
-        due.same(what + ": the units after the refusal", look(full), before);
-    }
-
-    private static String look(UnitRows x) {
-        StringBuilder look = new StringBuilder();
-        for (int unit = 0; unit < x.count(0); unit++) {
-            look.append(x.told(unit, 0)).append(' ').append(x.told(unit, 1)).append(' ').append(x.told(unit, 2))
-                    .append(' ').append(x.packed(unit)).append("; ");
+        for (int left = 0; left < rows; left++) {
+            UnitRows full = stocked();
+            Due.leaveRows(full, left);
+            due.leaves(what + " with too few rows", Due.NO_ROOM, full, () -> act.accept(full));
         }
-        return look.toString();
     }
 
     private static void justFullPlace() {
         UnitRows x = Due.withUnits(4);
         x.into(3, 2);
         x.place(4, 5);
-        x.split(0, 1);
+        due.done("a split into the last space", () -> x.split(0, 1));
         due.refused("a unit beyond the full place", Due.NO_ROOM, () -> x.unit(1, 4, 0, 1));
         due.refused("a split beyond it", Due.NO_ROOM, () -> x.split(0, 1));
         x.lost(1, 1);
-        x.found(1, 4);
+        due.done("found into the last space", () -> x.found(1, 4));
         x.lost(1, 1);
-        x.unit(1, 4, 0, 1);
+        due.done("a unit into the last space", () -> x.unit(1, 4, 0, 1));
         due.refused("found beyond it", Due.NO_ROOM, () -> x.found(1, 4));
         x.place(5, 2);
-        x.move(2, 5);
-        due.is("two into a place for two", x.told(3, 1), 5);
-        x.out(3);
-        due.is("out at a full place", x.told(3, 2), -1);
-        x.into(2, 3);
-        due.is("into at a full place", x.told(2, 2), 3);
+        due.done("two into a place for two", () -> x.move(2, 5));
+        due.is("both are there", x.told(3, 1), 5);
+        due.done("out at a full place", () -> x.out(3));
+        due.done("into at a full place", () -> x.into(2, 3));
+        due.done("move within a full place", () -> x.move(2, 5));
         x.place(15, 1);
-        x.move(2, 15);
+        due.done("one into place 15", () -> x.move(2, 15));
         due.refused("more into place 15", Due.NO_ROOM, () -> x.move(3, 15));
+        due.is("it stays", x.told(3, 1), 5);
     }
 
     private static void lastUnit() {
@@ -102,6 +94,7 @@ public final class RoomTest {
         due.refused("a 65th by split", Due.NO_ROOM, () -> y.split(0, 1));
         due.refused("a 65th unit", Due.NO_ROOM, () -> y.unit(1, 1, 0, 5));
         due.is("pieces", y.told(0, 3), 5);
+        due.is("rows", y.count(3), 65);
     }
 
     /** Every call that looks at all units, where the last of 64 is among them. */
