@@ -19,6 +19,7 @@ final class Due {
 
     private int wrong = 0;
     private int asked = 0;
+    private int toldOfThis = 0;
     private int sentences = 0;
     private String about = "";
 
@@ -27,6 +28,7 @@ final class Due {
         int before = asked;
         about = (promise == TERMS ? "Terms" : "Promise " + promise) + ", \"" + words + "\": ";
         sentences++;
+        toldOfThis = 0;
         try {
             test.run();
         } catch (RuntimeException e) {
@@ -102,7 +104,8 @@ final class Due {
 
     void tell(String text) {
         wrong++;
-        if (wrong <= 50) {
+        toldOfThis++;
+        if (toldOfThis <= 10) {
             System.out.println(about + text);
         }
     }

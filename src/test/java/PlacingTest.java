@@ -202,6 +202,11 @@ public final class PlacingTest {
         due.done("it lies in it no more", () -> x.into(0, 1));
         UnitRows y = Due.withChain(5, 5);
         due.leaves("by three others", Due.STATE, y, () -> y.into(0, 4));
+        // In these two nothing would be too deep.
+        UnitRows z = Due.withChain(2, 2);
+        due.leaves("the only one in it", Due.STATE, z, () -> z.into(0, 1));
+        UnitRows w = Due.withChain(3, 3);
+        due.leaves("the only one in it, both in another", Due.STATE, w, () -> w.into(1, 2));
     }
 
     private static void intoTooDeep() {

@@ -179,6 +179,8 @@ public final class StatesTest {
         due.leaves("another has it now", Due.STATE, x, () -> x.serial(3, 5));
         due.done("one that none has", () -> x.serial(3, 6));
         due.done("the least, though many have none", () -> x.serial(0, 1));
+        x.unit(1, 0, 0, 1);
+        due.leaves("one that unit 0 has", Due.STATE, x, () -> x.serial(4, 1));
     }
 
     private static void serialNoUnit() {

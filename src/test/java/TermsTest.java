@@ -153,6 +153,7 @@ public final class TermsTest {
             due.is("its lot", x.told(lot, 4), lot);
         }
         due.outside("unit of", Due.NO_SUCH, 0, 15, n -> x.unit(n, 0, 0, 1));
+        due.refused("lot 16", Due.NO_ROOM, () -> x.lot(0, 0));
     }
 
     private static void lotsOfOneGood() {
